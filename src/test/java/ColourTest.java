@@ -11,7 +11,9 @@ public final class ColourTest {
         pinsThatStayAreNot();
         pinsCountAsOftenAsTheyCome();
         roundsGoOnInBoth();
+        fullCircuits();
         emptyCircuits();
+        changesAreSeen();
         promise26NetsLike();
         promise27PartsLike();
         promise28AreAlike();
@@ -30,7 +32,6 @@ public final class ColourTest {
     }
 
     private static void roundsOfAChain() {
-        // Ports at one end only: each second round tells one more net apart.
         CHECK.due("a chain with a port", "1 3 2", () -> classes(Draw.one(3, "r1:0:1 r1:1:2 a=0")));
         CHECK.due("a chain without", "0 2 1", () -> classes(Draw.one(3, "r1:0:1 r1:1:2")));
         CHECK.due("a longer chain", "2 3 2", () -> classes(Draw.one(5, "r1:0:1 r1:1:2 r1:2:3 r1:3:4")));
@@ -60,6 +61,42 @@ public final class ColourTest {
         CHECK.due("in both", "4 6 5", () -> classes(Draw.both(6, chain, chain)));
         CHECK.due("more classes over both", "4 11 8",
                 () -> classes(Draw.both(6, chain, "r1:0:1 r1:1:2 r1:3:4 r1:4:5 a=0")));
+    }
+
+    private static void fullCircuits() {
+        String parts = "t1:0:0:0 t2:0:0:0 t3:0:0:0 t4:0:0:0 t5:0:0:0 t6:0:0:0 t7:0:0:0 t8:0:0:0 t9:0:0:0 ";
+        CHECK.due("the last of 30 pins", "2 2 20", () -> classes(
+                Draw.both(1, parts + "t10:0:0:0", parts + "t11:0:0:0")));
+        CHECK.due("all of both apart", "1 20 20", () -> classes(Draw.both(10, loops(1), loops(2))));
+    }
+
+    /** Ten nets and parts that nothing else has. */
+    private static String loops(int circuit) {
+        StringBuilder text = new StringBuilder();
+        for (int net = 0; net < 10; net++) {
+            text.append(" t").append(circuit * 10 + net).append(":" + net).append(":" + net).append(":" + net);
+        }
+        return text.toString();
+    }
+
+    private static void changesAreSeen() {
+        CHECK.due("netClasses first of all", 2, () -> Draw.one(2, "a=0").netClasses());
+        CHECK.due("partClasses first of all", 2, () -> Draw.one(2, "r1:0:1 c1:0:1").partClasses());
+        CHECK.due("netsLike first of all", 2, () -> Draw.one(2, "r1:0:1").netsLike(0, 0, 0));
+        CHECK.due("partsLike first of all", 1, () -> Draw.one(2, "r1:0:1").partsLike(0, 0, 0));
+        CHECK.due("areAlike first of all", true, () -> Draw.both(1, "", "").areAlike(0, 0));
+        Netcompare x = Draw.both(2, "r1:0:1", "r1:0:1");
+        CHECK.due("before", "0 1 1", () -> classes(x));
+        x.setValue(1, 0, 2);
+        CHECK.due("another value", "1 2 2", () -> classes(x));
+        x.setPort(0, 0, 'a');
+        CHECK.due("a port", "1 3 2", () -> classes(x));
+        x.copyWished();
+        CHECK.due("a copy", "0 2 1", () -> classes(x));
+        x.addNet(1);
+        CHECK.due("a net more", "0 3 1", () -> classes(x));
+        x.removePart(0, 0);
+        CHECK.due("a part less", "0 4 1", () -> classes(x));
     }
 
     private static void emptyCircuits() {

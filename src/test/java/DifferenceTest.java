@@ -5,6 +5,7 @@ public final class DifferenceTest {
     public static void main(String[] args) {
         promise35To39Order();
         sizesAndMembers();
+        asManyAsCanBe();
         equalCircuitsDoNotDiffer();
         wrongIndexes();
         promise40EqualShare();
@@ -48,6 +49,23 @@ public final class DifferenceTest {
         });
     }
 
+    private static void asManyAsCanBe() {
+        Netcompare x = Draw.both(10, loops("r"), loops("c"));
+        CHECK.due("all nets and parts", 40, () -> x.differences());
+        CHECK.due("last kind", 'p', () -> x.differenceKind(39));
+        CHECK.due("last member", 109, () -> x.differenceMember(39));
+        CHECK.due("behind the last", Check.INDEX, () -> x.differenceMember(40));
+    }
+
+    /** Ten nets, each with its own part. */
+    private static String loops(String kind) {
+        StringBuilder text = new StringBuilder();
+        for (int net = 0; net < 10; net++) {
+            text.append(' ').append(kind).append(1 + net).append(":" + net).append(":" + net);
+        }
+        return text.toString();
+    }
+
     private static void equalCircuitsDoNotDiffer() {
         CHECK.due("nothing", 0, () -> new Netcompare().differences());
         CHECK.due("the same", 0, () -> Draw.both(3, "t1:0:1:2 a=1", "t1:2:0:1 a=0").differences());
@@ -59,6 +77,7 @@ public final class DifferenceTest {
         Netcompare x = Draw.both(1, "a=0", "b=0");
         CHECK.due("two", 2, () -> x.differences());
         CHECK.due("last", 100, () -> x.differenceMember(1));
+        CHECK.due("differenceKind first of all", 'n', () -> Draw.one(1, "").differenceKind(0));
         for (int index : new int[] {-1, 2, Integer.MAX_VALUE, Integer.MIN_VALUE}) {
             CHECK.due("differenceKind", Check.INDEX, () -> x.differenceKind(index));
             CHECK.due("differenceMember", Check.INDEX, () -> x.differenceMember(index));

@@ -55,6 +55,7 @@ public final class ReadTest {
         CHECK.due("pinsOn 0", 4, () -> x.pinsOn(0, 0));
         CHECK.due("pinsOn 1", 1, () -> x.pinsOn(0, 1));
         CHECK.due("pinsOn 2", 0, () -> x.pinsOn(0, 2));
+        CHECK.due("all pins on one net", 30, () -> Draw.one(1, "t1:0:0:0 ".repeat(10)).pinsOn(0, 0));
         CHECK.due("pinsOn missing", Check.ELEMENT, () -> x.pinsOn(0, 4));
         CHECK.due("pinsOn -1", Check.ELEMENT, () -> x.pinsOn(0, -1));
         CHECK.due("pinsOn circuit", Check.ARGUMENT, () -> x.pinsOn(2, 9));
@@ -86,6 +87,8 @@ public final class ReadTest {
         Netcompare x = Draw.one(10, "r47:0:2 d5:9:8 t100:1:2:3 c999:0:0 r10:0:1");
         x.removePart(0, 4);
         CHECK.due("all labels", "r47:0:2 d5:9:8 t100:1:2:3 c999:0:0------", () -> Draw.labels(x, 0));
+        CHECK.due("values of one, two and three digits", "r9:0:0 r10:0:0 r99:0:0 r100:0:0------",
+                () -> Draw.labels(Draw.one(1, "r9:0:0 r10:0:0 r99:0:0 r100:0:0"), 0));
         CHECK.due("length 7", 7, () -> x.labelLength(0, 0));
         CHECK.due("length 6", 6, () -> x.labelLength(0, 1));
         CHECK.due("length 10", 10, () -> x.labelLength(0, 2));
@@ -115,5 +118,6 @@ public final class ReadTest {
         CHECK.due("sum of the drawn one", 7L, () -> x.valueSum(1));
         CHECK.due("circuit", Check.ARGUMENT, () -> x.valueSum(2));
         CHECK.due("nothing", 0L, () -> new Netcompare().valueSum(0));
+        CHECK.due("ten of the most", 9990L, () -> Draw.one(1, "r999:0:0 ".repeat(10)).valueSum(0));
     }
 }
