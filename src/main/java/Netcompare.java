@@ -10,32 +10,23 @@ public final class Netcompare {
     private static final int FAR = 99;
     private static final char NONE = '-';
 
-    private final Circuit wished;
-    private final Circuit drawn;
-    private final Colours colours;
-    private final Differences unequal;
+    private final Pair pair;
     private final Match match;
     private final Match triedMatch;
-    private boolean isColoured;
-    private boolean isSearched;
-    private boolean isTried;
 
     public Netcompare() {
-        wished = new Circuit();
-        drawn = new Circuit();
-        colours = new Colours(wished, drawn);
-        unequal = new Differences();
-        match = new Match(wished, drawn);
-        triedMatch = new Match(wished, drawn);
+        pair = new Pair();
+        match = new Match(pair);
+        triedMatch = new Match(pair);
     }
 
     public int addNet(int circuit) throws IllegalArgumentException, IllegalStateException {
-        Circuit at = circuitAt(circuit);
-        if (at.netCount >= MOST) {
+        int net = circuitAt(circuit).newNet();
+        if (net < 0) {
             throw new IllegalStateException("the circuit has all its nets");
         }
         forget();
-        return at.newNet();
+        return net;
     }
 
     public char setPort(int circuit, int net, char letter)
@@ -44,14 +35,12 @@ public final class Netcompare {
         if (letter != NONE && (letter < 'a' || letter > 'f')) {
             throw new IllegalArgumentException("no such letter");
         }
-        requireNet(at, net);
+        requireNet(circuit, net);
         if (letter != NONE && at.hasLetterBeside(net, letter)) {
             throw new IllegalStateException("another net has the letter");
         }
         forget();
-        char before = at.letter[net];
-        at.letter[net] = letter;
-        return before;
+        return at.changeLetter(net, letter);
     }
 
     public int addPart(int circuit, char kind, int value, int first, int second, int third)
@@ -62,92 +51,83 @@ public final class Netcompare {
         if (kind != 't' && third != -1) {
             throw new IllegalArgumentException("a third net without a third pin");
         }
-        requireNet(at, first);
-        requireNet(at, second);
+        requireNet(circuit, first);
+        requireNet(circuit, second);
         if (kind == 't') {
-            requireNet(at, third);
+            requireNet(circuit, third);
         }
-        if (at.addedParts >= MOST) {
+        int part = at.newPart(kind, value, first, second, third);
+        if (part < 0) {
             throw new IllegalStateException("all parts of the circuit have been added");
         }
         forget();
-        int number = at.addedParts;
-        at.addedParts++;
-        Part part = at.part[number];
-        part.become(kind, value);
-        part.net[0] = first;
-        part.net[1] = second;
-        part.net[2] = third;
-        return number;
+        return part;
     }
 
     public int removePart(int circuit, int part) throws IllegalArgumentException, NoSuchElementException {
         Circuit at = circuitAt(circuit);
-        requirePart(at, part);
+        requirePart(circuit, part);
         forget();
-        at.part[part].value = 0;
+        at.remove(part);
         return at.countParts();
     }
 
     public int setValue(int circuit, int part, int value) throws IllegalArgumentException, NoSuchElementException {
         Circuit at = circuitAt(circuit);
         requireValue(value);
-        requirePart(at, part);
+        requirePart(circuit, part);
         forget();
-        int before = at.part[part].value;
-        at.part[part].value = value;
-        return before;
+        return at.changeValue(part, value);
     }
 
     public int rewire(int circuit, int part, int pin, int net)
             throws IllegalArgumentException, NoSuchElementException, IndexOutOfBoundsException,
             UnsupportedOperationException {
         Circuit at = circuitAt(circuit);
-        requirePart(at, part);
-        requirePin(at, part, pin);
+        requirePart(circuit, part);
+        requirePin(circuit, part, pin);
         if (!at.hasNet(net)) {
             throw new UnsupportedOperationException("no such net");
         }
         forget();
-        int before = at.part[part].net[pin];
-        at.part[part].net[pin] = net;
-        return before;
+        return at.changeNet(part, pin, net);
     }
 
     public int swapPins(int circuit, int part)
             throws IllegalArgumentException, NoSuchElementException, UnsupportedOperationException {
         Circuit at = circuitAt(circuit);
-        requirePart(at, part);
-        if (!at.part[part].hasSwappable()) {
+        requirePart(circuit, part);
+        if (at.firstSwappable(part) >= MOST_PINS) {
             throw new UnsupportedOperationException("the pins of a diode stay");
         }
         forget();
-        return at.part[part].swap();
+        return at.swap(part);
     }
 
     public int copyWished() {
         forget();
-        drawn.copyFrom(wished);
-        return drawn.countParts();
+        pair.drawn.copyFrom(pair.wished);
+        return pair.drawn.countParts();
     }
 
     public char canJoin(int circuit, int one, int other) throws IllegalArgumentException, NoSuchElementException {
         Circuit at = circuitAt(circuit);
-        requirePart(at, one);
-        requirePart(at, other);
+        requirePart(circuit, one);
+        requirePart(circuit, other);
         return at.wayToJoin(one, other);
     }
 
     public int join(int circuit, int one, int other)
             throws IllegalArgumentException, NoSuchElementException, UnsupportedOperationException {
         Circuit at = circuitAt(circuit);
-        requirePart(at, one);
-        requirePart(at, other);
-        if (at.wayToJoin(one, other) == NONE) {
+        requirePart(circuit, one);
+        requirePart(circuit, other);
+        int joined = at.joinPair(one, other);
+        if (joined == 0) {
             throw new UnsupportedOperationException("neither in series nor in parallel");
         }
         forget();
-        return at.joinPair(Math.min(one, other), Math.max(one, other));
+        return joined;
     }
 
     public int joinAll(int circuit) throws IllegalArgumentException {
@@ -165,174 +145,166 @@ public final class Netcompare {
     }
 
     public char kindOf(int circuit, int part) throws IllegalArgumentException, NoSuchElementException {
-        Circuit at = circuitAt(circuit);
-        requirePart(at, part);
-        return at.part[part].kind;
+        requirePart(circuit, part);
+        return circuitAt(circuit).kindAt(part);
     }
 
     public int valueOf(int circuit, int part) throws IllegalArgumentException, NoSuchElementException {
-        Circuit at = circuitAt(circuit);
-        requirePart(at, part);
-        return at.part[part].value;
+        requirePart(circuit, part);
+        return circuitAt(circuit).valueAt(part);
     }
 
     public int netOf(int circuit, int part, int pin)
             throws IllegalArgumentException, NoSuchElementException, IndexOutOfBoundsException {
-        Circuit at = circuitAt(circuit);
-        requirePart(at, part);
-        requirePin(at, part, pin);
-        return at.part[part].net[pin];
+        requirePart(circuit, part);
+        requirePin(circuit, part, pin);
+        return circuitAt(circuit).netAt(part, pin);
     }
 
     public int pinsOn(int circuit, int net) throws IllegalArgumentException, NoSuchElementException {
-        Circuit at = circuitAt(circuit);
-        requireNet(at, net);
-        return at.countPins(net);
+        requireNet(circuit, net);
+        return circuitAt(circuit).countPins(net);
     }
 
     public char portOf(int circuit, int net) throws IllegalArgumentException, NoSuchElementException {
-        Circuit at = circuitAt(circuit);
-        requireNet(at, net);
-        return at.letter[net];
+        requireNet(circuit, net);
+        return circuitAt(circuit).letterAt(net);
     }
 
     public int distance(int circuit, int net) throws IllegalArgumentException, NoSuchElementException {
+        requireNet(circuit, net);
         Circuit at = circuitAt(circuit);
-        requireNet(at, net);
         at.measure();
-        return at.steps[net];
+        return at.stepsAt(net);
     }
 
     public int labelLength(int circuit, int part) throws IllegalArgumentException, NoSuchElementException {
-        Circuit at = circuitAt(circuit);
-        requirePart(at, part);
-        return at.part[part].writeLabel();
+        requirePart(circuit, part);
+        return circuitAt(circuit).writeLabel(part);
     }
 
     public char labelAt(int circuit, int part, int index)
             throws IllegalArgumentException, NoSuchElementException, IndexOutOfBoundsException {
+        requirePart(circuit, part);
         Circuit at = circuitAt(circuit);
-        requirePart(at, part);
-        if (index < 0 || index >= at.part[part].writeLabel()) {
+        if (index < 0 || index >= at.writeLabel(part)) {
             throw new IndexOutOfBoundsException("no such index");
         }
-        return at.part[part].label[index];
+        return at.signAt(index);
     }
 
     public int rounds() {
-        colour();
-        return colours.roundCount;
+        pair.colour();
+        return pair.roundCount;
     }
 
     public int netClasses() {
-        colour();
-        return colours.ofNets.classCount;
+        pair.colour();
+        return pair.ofNets.classCount;
     }
 
     public int partClasses() {
-        colour();
-        return colours.ofParts.classCount;
+        pair.colour();
+        return pair.ofParts.classCount;
     }
 
     public int netsLike(int circuit, int net, int of) throws IllegalArgumentException, NoSuchElementException {
-        Circuit at = circuitAt(circuit);
         requireCircuit(of);
-        requireNet(at, net);
-        colour();
-        return colours.ofNets.sizeOf(colours.ofNets.colour[slot(circuit, net)], of);
+        requireNet(circuit, net);
+        pair.colour();
+        return pair.ofNets.sizeOf(pair.ofNets.colourAt(slot(circuit, net)), of);
     }
 
     public int partsLike(int circuit, int part, int of) throws IllegalArgumentException, NoSuchElementException {
-        Circuit at = circuitAt(circuit);
         requireCircuit(of);
-        requirePart(at, part);
-        colour();
-        return colours.ofParts.sizeOf(colours.ofParts.colour[slot(circuit, part)], of);
+        requirePart(circuit, part);
+        pair.colour();
+        return pair.ofParts.sizeOf(pair.ofParts.colourAt(slot(circuit, part)), of);
     }
 
     public boolean areAlike(int wished, int drawn) throws NoSuchElementException {
-        requireNet(this.wished, wished);
-        requireNet(this.drawn, drawn);
-        colour();
-        return colours.ofNets.isSameColour(wished, drawn);
+        requireNet(0, wished);
+        requireNet(1, drawn);
+        pair.colour();
+        return pair.ofNets.isSameColour(wished, drawn);
     }
 
     public boolean isMatched() {
-        search();
+        match.find();
         return match.isFound;
     }
 
     public boolean isMatchedByTrying() throws UnsupportedOperationException {
         requireFewNets();
-        searchByTrying();
+        triedMatch.findByTrying();
         return triedMatch.isFound;
     }
 
     public int matchedNet(int net) throws NoSuchElementException, IllegalStateException {
-        requireNet(wished, net);
-        search();
-        requireFound(match);
-        return match.image[net];
+        requireNet(0, net);
+        match.find();
+        requireFound(match.isFound);
+        return match.imageAt(net);
     }
 
     public int netByTrying(int net)
             throws NoSuchElementException, UnsupportedOperationException, IllegalStateException {
-        requireNet(wished, net);
+        requireNet(0, net);
         requireFewNets();
-        searchByTrying();
-        requireFound(triedMatch);
-        return triedMatch.image[net];
+        triedMatch.findByTrying();
+        requireFound(triedMatch.isFound);
+        return triedMatch.imageAt(net);
     }
 
     public int matchedPart(int part) throws NoSuchElementException, IllegalStateException {
-        requirePart(wished, part);
-        search();
-        requireFound(match);
-        return match.partImage[part];
+        requirePart(0, part);
+        match.find();
+        requireFound(match.isFound);
+        return match.partImageAt(part);
     }
 
     public int matchedPin(int part, int pin)
             throws NoSuchElementException, IndexOutOfBoundsException, IllegalStateException {
-        requirePart(wished, part);
-        requirePin(wished, part, pin);
-        search();
-        requireFound(match);
+        requirePart(0, part);
+        requirePin(0, part, pin);
+        match.find();
+        requireFound(match.isFound);
         return match.pinImage(part, pin);
     }
 
     public int differences() {
-        colour();
-        return unequal.count;
+        pair.colour();
+        return pair.unequal.count;
     }
 
     public char differenceKind(int index) throws IndexOutOfBoundsException {
         requireDifference(index);
-        return unequal.isOfParts(index) ? 'p' : 'n';
+        return pair.unequal.isOfParts(index) ? 'p' : 'n';
     }
 
     public int differenceMember(int index) throws IndexOutOfBoundsException {
         requireDifference(index);
-        return unequal.memberOf(index);
+        return pair.unequal.memberOf(index);
     }
 
     public int differenceDistance(int index) throws IndexOutOfBoundsException {
         requireDifference(index);
-        return unequal.distanceOf(index);
+        return pair.unequal.distanceOf(index);
     }
 
     public int differenceSize(int index, int circuit) throws IndexOutOfBoundsException, IllegalArgumentException {
         requireDifference(index);
         requireCircuit(circuit);
-        return unequal.sizeOf(index, circuit, colours);
+        return pair.sizeOfUnequal(index, circuit);
     }
 
     public float equalShare() throws ArithmeticException {
-        colour();
-        int all = colours.countClasses();
+        pair.colour();
+        int all = pair.countClasses();
         if (all == 0) {
             throw new ArithmeticException("no classes");
         }
-        return (float) (all - unequal.count) / (float) all;
+        return (float) (all - pair.unequal.count) / (float) all;
     }
 
     public double meanDistance(int circuit) throws IllegalArgumentException, ArithmeticException {
@@ -341,8 +313,8 @@ public final class Netcompare {
         int sum = 0;
         int reaching = 0;
         for (int net = 0; net < at.netCount; net++) {
-            if (at.steps[net] != FAR) {
-                sum += at.steps[net];
+            if (at.stepsAt(net) != FAR) {
+                sum += at.stepsAt(net);
                 reaching++;
             }
         }
@@ -355,15 +327,15 @@ public final class Netcompare {
     public long valueSum(int circuit) throws IllegalArgumentException {
         Circuit at = circuitAt(circuit);
         long sum = 0;
-        for (int part = 0; part < at.addedParts; part++) {
-            sum += at.part[part].value;
+        for (int part = 0; part < MOST; part++) {
+            sum += at.valueAt(part);
         }
         return sum;
     }
 
     private Circuit circuitAt(int circuit) {
         requireCircuit(circuit);
-        return circuit == 0 ? wished : drawn;
+        return pair.circuit(circuit);
     }
 
     private static void requireCircuit(int circuit) {
@@ -384,73 +356,48 @@ public final class Netcompare {
         }
     }
 
-    private static void requireNet(Circuit at, int net) {
-        if (!at.hasNet(net)) {
+    private void requireNet(int circuit, int net) {
+        if (!circuitAt(circuit).hasNet(net)) {
             throw new NoSuchElementException("no such net");
         }
     }
 
-    private static void requirePart(Circuit at, int part) {
-        if (!at.hasPart(part)) {
+    private void requirePart(int circuit, int part) {
+        if (!circuitAt(circuit).hasPart(part)) {
             throw new NoSuchElementException("no such part");
         }
     }
 
-    private static void requirePin(Circuit at, int part, int pin) {
-        if (pin < 0 || pin >= at.part[part].pinCount) {
+    private void requirePin(int circuit, int part, int pin) {
+        if (circuitAt(circuit).netAt(part, pin) < 0) {
             throw new IndexOutOfBoundsException("no such pin");
         }
     }
 
     private void requireFewNets() {
-        if (wished.netCount > MOST_TRIED_NETS || drawn.netCount > MOST_TRIED_NETS) {
+        if (!pair.hasFewNets()) {
             throw new UnsupportedOperationException("too many nets to try all ways");
         }
     }
 
-    private static void requireFound(Match match) {
-        if (!match.isFound) {
+    private static void requireFound(boolean isFound) {
+        if (!isFound) {
             throw new IllegalStateException("no match");
         }
     }
 
     private void requireDifference(int index) {
-        colour();
-        if (index < 0 || index >= unequal.count) {
+        pair.colour();
+        if (index < 0 || index >= pair.unequal.count) {
             throw new IndexOutOfBoundsException("no such difference");
         }
     }
 
     /** Every change ends what has been found out; it is found out anew when it is asked for. */
     private void forget() {
-        isColoured = false;
-        isSearched = false;
-        isTried = false;
-    }
-
-    private void colour() {
-        if (!isColoured) {
-            wished.measure();
-            drawn.measure();
-            colours.refine();
-            unequal.collect(colours);
-            isColoured = true;
-        }
-    }
-
-    private void search() {
-        if (!isSearched) {
-            colour();
-            match.find(colours.ofNets, unequal.count == 0);
-            isSearched = true;
-        }
-    }
-
-    private void searchByTrying() {
-        if (!isTried) {
-            triedMatch.findByTrying();
-            isTried = true;
-        }
+        pair.isColoured = false;
+        match.isSearched = false;
+        triedMatch.isSearched = false;
     }
 
     /** Where a net or a part of a circuit stands in rows over both circuits. */
@@ -458,170 +405,186 @@ public final class Netcompare {
         return circuit * MOST + number;
     }
 
-    /** A place for a part: none has been added yet, or one is there, or it is removed. */
-    static final class Part {
-        private char kind;
-        /** 0 where no part is: no part has that value. */
-        private int value;
-        private int pinCount;
-        /** Can be swapped with the next pin; behind the last pin if none can. */
-        private int firstSwappable;
-        private final int[] net = new int[MOST_PINS];
-        /** Holds the longest label, as "t999:0:1:2". */
-        private final char[] label = new char[10];
-
-        void become(char newKind, int newValue) {
-            kind = newKind;
-            value = newValue;
-            pinCount = newKind == 't' ? 3 : 2;
-            firstSwappable = newKind == 'd' ? 2 : pinCount - 2;
-        }
-
-        void copyFrom(Part other) {
-            kind = other.kind;
-            value = other.value;
-            pinCount = other.pinCount;
-            firstSwappable = other.firstSwappable;
-            System.arraycopy(other.net, 0, net, 0, MOST_PINS);
-        }
-
-        boolean isThere() {
-            return value > 0;
-        }
-
-        boolean hasSwappable() {
-            return firstSwappable < pinCount;
-        }
-
-        /** Swaps the pins that can be swapped, and returns the net on which the lower one is then. */
-        int swap() {
-            int lower = firstSwappable;
-            int higher = lower + 1;
-            if (higher >= MOST_PINS) {
-                return -1;
-            }
-            int before = net[lower];
-            net[lower] = net[higher];
-            net[higher] = before;
-            return net[lower];
-        }
-
-        /** The pin with which a pin can be swapped, or the pin itself. */
-        int partner(int pin) {
-            return pin < firstSwappable ? pin : 2 * firstSwappable + 1 - pin;
-        }
-
-        int countPinsOn(int wanted) {
-            int count = 0;
-            for (int pin = 0; pin < pinCount; pin++) {
-                if (net[pin] == wanted) {
-                    count++;
-                }
-            }
-            return count;
-        }
-
-        /** The net of a part with two pins that is not the one given. */
-        int netBeside(int given) {
-            return net[0] == given ? net[1] : net[0];
-        }
-
-        boolean isJoinable() {
-            return kind == 'r' || kind == 'c';
-        }
-
-        boolean isParallelTo(Part other) {
-            boolean isSame = net[0] == other.net[0] && net[1] == other.net[1];
-            boolean isCrossed = net[0] == other.net[1] && net[1] == other.net[0];
-            return net[0] != net[1] && (isSame || isCrossed);
-        }
-
-        /** Writes the label, and returns its length. */
-        int writeLabel() {
-            int length = 0;
-            label[length++] = kind;
-            if (value >= 100) {
-                label[length++] = digit(value / 100);
-            }
-            if (value >= 10) {
-                label[length++] = digit(value / 10 % 10);
-            }
-            label[length++] = digit(value % 10);
-            for (int pin = 0; pin < pinCount; pin++) {
-                label[length++] = ':';
-                label[length++] = digit(net[pin]);
-            }
-            return length;
-        }
-
-        private static char digit(int number) {
-            return (char) ('0' + number);
-        }
-    }
-
-    /** The nets and parts of one circuit. */
+    /**
+     * The nets and parts of one circuit. What is asked about a net, a part or a pin that is not there has an answer
+     * too, so that nobody has to ask first.
+     */
     static final class Circuit {
+        /** The longest label, as "t999:0:1:2". */
+        private static final int LONGEST_LABEL = 10;
+
         private int netCount;
         private int addedParts;
         private final char[] letter = new char[MOST];
-        private final Part[] part = new Part[MOST];
+        private final char[] kind = new char[MOST];
+        /** 0 where no part is: none has been added there yet, or it is removed. */
+        private final int[] value = new int[MOST];
+        /** The nets of the pins of each part; -1 where no pin is. */
+        private final int[][] net = new int[MOST][MOST_PINS];
         /** The distance of each net to a port, as measured last. */
         private final int[] steps = new int[MOST];
+        /** The label that was written last. */
+        private final char[] label = new char[LONGEST_LABEL];
+        private int signCount;
 
         Circuit() {
-            for (int number = 0; number < MOST; number++) {
-                part[number] = new Part();
+            for (int part = 0; part < MOST; part++) {
+                for (int pin = 0; pin < MOST_PINS; pin++) {
+                    net[part][pin] = -1;
+                }
             }
         }
 
-        boolean hasNet(int net) {
-            return net >= 0 && net < netCount;
+        boolean hasNet(int number) {
+            return number >= 0 && number < netCount;
         }
 
-        boolean hasPart(int number) {
-            return number >= 0 && number < addedParts && part[number].isThere();
+        boolean hasPart(int part) {
+            return valueAt(part) > 0;
         }
 
-        boolean hasLetterBeside(int net, char wanted) {
+        /** The letter of a net; '-' if it is no port. */
+        char letterAt(int number) {
+            return number >= 0 && number < MOST && number < netCount ? letter[number] : NONE;
+        }
+
+        /** The kind of a part; '-' if it is not there. */
+        char kindAt(int part) {
+            return part >= 0 && part < MOST && value[part] > 0 ? kind[part] : NONE;
+        }
+
+        /** The value of a part; 0 if it is not there. */
+        int valueAt(int part) {
+            return part >= 0 && part < MOST ? value[part] : 0;
+        }
+
+        /** The net of a pin; -1 if it is not there. */
+        int netAt(int part, int pin) {
+            return part >= 0 && part < MOST && pin >= 0 && pin < MOST_PINS ? net[part][pin] : -1;
+        }
+
+        /** The distance of a net to a port, as measured last. */
+        int stepsAt(int number) {
+            return number >= 0 && number < MOST ? steps[number] : FAR;
+        }
+
+        boolean hasLetterBeside(int number, char wanted) {
             for (int other = 0; other < netCount; other++) {
-                if (other != net && letter[other] == wanted) {
+                if (other != number && letterAt(other) == wanted) {
                     return true;
                 }
             }
             return false;
         }
 
+        /** Returns the number of the new net; -1 if there is no place for it. */
         int newNet() {
-            int net = netCount;
-            letter[net] = NONE;
+            int number = netCount;
+            if (number >= MOST) {
+                return -1;
+            }
+            letter[number] = NONE;
             netCount++;
-            return net;
+            return number;
+        }
+
+        /** Returns the number of the new part; -1 if there is no place for it. */
+        int newPart(char itsKind, int itsValue, int first, int second, int third) {
+            int part = addedParts;
+            if (part >= MOST) {
+                return -1;
+            }
+            kind[part] = itsKind;
+            value[part] = itsValue;
+            net[part][0] = first;
+            net[part][1] = second;
+            net[part][2] = third;
+            addedParts++;
+            return part;
+        }
+
+        /** Returns the letter before. */
+        char changeLetter(int number, char to) {
+            char before = letterAt(number);
+            if (number >= 0 && number < MOST) {
+                letter[number] = to;
+            }
+            return before;
+        }
+
+        /** Returns the value before. */
+        int changeValue(int part, int to) {
+            int before = valueAt(part);
+            if (part >= 0 && part < MOST) {
+                value[part] = to;
+            }
+            return before;
+        }
+
+        /** Returns the net before. */
+        int changeNet(int part, int pin, int to) {
+            int before = netAt(part, pin);
+            if (part >= 0 && part < MOST && pin >= 0 && pin < MOST_PINS) {
+                net[part][pin] = to;
+            }
+            return before;
+        }
+
+        void remove(int part) {
+            changeValue(part, 0);
+            for (int pin = 0; pin < MOST_PINS; pin++) {
+                changeNet(part, pin, -1);
+            }
         }
 
         void copyFrom(Circuit other) {
+            if (other == null) {
+                return;
+            }
             netCount = other.netCount;
             addedParts = other.addedParts;
             System.arraycopy(other.letter, 0, letter, 0, MOST);
-            for (int number = 0; number < MOST; number++) {
-                part[number].copyFrom(other.part[number]);
+            System.arraycopy(other.kind, 0, kind, 0, MOST);
+            System.arraycopy(other.value, 0, value, 0, MOST);
+            for (int part = 0; part < MOST; part++) {
+                System.arraycopy(other.net[part], 0, net[part], 0, MOST_PINS);
             }
+        }
+
+        /** The lower one of the two pins that can be swapped; behind all pins if none can. */
+        int firstSwappable(int part) {
+            char its = kindAt(part);
+            if (its == 't') {
+                return 1;
+            }
+            return its == 'r' || its == 'c' ? 0 : MOST_PINS;
+        }
+
+        /** Swaps the pins that can be swapped, and returns the net on which the lower one is then. */
+        int swap(int part) {
+            int lower = firstSwappable(part);
+            int before = changeNet(part, lower, netAt(part, lower + 1));
+            changeNet(part, lower + 1, before);
+            return netAt(part, lower);
         }
 
         int countParts() {
             int count = 0;
-            for (int number = 0; number < addedParts; number++) {
-                if (part[number].isThere()) {
+            for (int part = 0; part < MOST; part++) {
+                if (value[part] > 0) {
                     count++;
                 }
             }
             return count;
         }
 
-        int countPins(int net) {
+        int countPins(int wanted) {
             int count = 0;
-            for (int number = 0; number < addedParts; number++) {
-                if (part[number].isThere()) {
-                    count += part[number].countPinsOn(net);
+            for (int part = 0; part < MOST; part++) {
+                for (int pin = 0; pin < MOST_PINS; pin++) {
+                    if (net[part][pin] == wanted) {
+                        count++;
+                    }
                 }
             }
             return count;
@@ -629,75 +592,119 @@ public final class Netcompare {
 
         /** Measures the distances of all nets: in each pass those that are one step farther. */
         void measure() {
-            for (int net = 0; net < netCount; net++) {
-                steps[net] = letter[net] == NONE ? FAR : 0;
+            for (int number = 0; number < MOST; number++) {
+                steps[number] = letterAt(number) == NONE ? FAR : 0;
             }
             for (int far = 1; far < MOST; far++) {
-                for (int number = 0; number < addedParts; number++) {
-                    if (part[number].isThere() && nearest(part[number]) == far - 1) {
-                        stepOver(part[number], far);
+                for (int part = 0; part < MOST; part++) {
+                    if (nearest(part) == far - 1) {
+                        stepOver(part, far);
                     }
                 }
             }
         }
 
-        private void stepOver(Part over, int far) {
-            for (int pin = 0; pin < over.pinCount; pin++) {
-                int net = over.net[pin];
-                steps[net] = Math.min(steps[net], far);
+        private void stepOver(int part, int far) {
+            for (int pin = 0; pin < MOST_PINS; pin++) {
+                int number = netAt(part, pin);
+                if (number >= 0 && number < MOST) {
+                    steps[number] = Math.min(steps[number], far);
+                }
             }
         }
 
         /** The least distance of the nets of a part. */
-        int nearest(Part of) {
+        int nearest(int part) {
             int least = FAR;
-            for (int pin = 0; pin < of.pinCount; pin++) {
-                least = Math.min(least, steps[of.net[pin]]);
+            for (int pin = 0; pin < MOST_PINS; pin++) {
+                least = Math.min(least, stepsAt(netAt(part, pin)));
             }
             return least;
         }
 
+        /** Whether no part joins a net to another one. */
+        boolean isAlone(int number) {
+            for (int part = 0; part < MOST; part++) {
+                int pinsOnIt = 0;
+                int pinsElsewhere = 0;
+                for (int pin = 0; pin < MOST_PINS; pin++) {
+                    if (net[part][pin] == number) {
+                        pinsOnIt++;
+                    } else if (net[part][pin] >= 0) {
+                        pinsElsewhere++;
+                    }
+                }
+                if (pinsOnIt > 0 && pinsElsewhere > 0) {
+                    return false;
+                }
+            }
+            return true;
+        }
+
         /** 's' for series, 'p' for parallel, '-' for neither. */
         char wayToJoin(int one, int other) {
-            Part first = part[one];
-            Part second = part[other];
-            if (one == other || first.kind != second.kind || !first.isJoinable()) {
+            char its = kindAt(one);
+            if (one == other || its != kindAt(other) || (its != 'r' && its != 'c')) {
                 return NONE;
             }
-            if (first.isParallelTo(second)) {
+            if (areParallel(one, other)) {
                 return 'p';
             }
-            return pinInSeries(first, second) >= 0 ? 's' : NONE;
+            return pinInSeries(one, other) >= 0 ? 's' : NONE;
+        }
+
+        private boolean areParallel(int one, int other) {
+            int near = netAt(one, 0);
+            int far = netAt(one, 1);
+            return near != far && netAcross(other, near) == far;
         }
 
         /** The pin of one part on the net by which it is in series with another one, or -1. */
-        private int pinInSeries(Part one, Part other) {
+        private int pinInSeries(int one, int other) {
             for (int pin = 0; pin < 2; pin++) {
-                int common = one.net[pin];
-                if (letter[common] == NONE && countPins(common) == 2
-                        && one.countPinsOn(common) == 1 && other.countPinsOn(common) == 1
-                        && one.net[1 - pin] != other.netBeside(common)) {
+                int common = netAt(one, pin);
+                int across = netAcross(other, common);
+                if (letterAt(common) == NONE && countPins(common) == 2
+                        && across >= 0 && across != netAt(one, 1 - pin)) {
                     return pin;
                 }
             }
             return -1;
         }
 
-        /** Joins two parts that can be joined into the one with the lower number; returns the joined value. */
-        int joinPair(int lower, int higher) {
-            Part kept = part[lower];
-            Part gone = part[higher];
-            int pin = pinInSeries(kept, gone);
-            boolean isSeries = pin >= 0;
-            if (isSeries) {
-                int common = kept.net[pin];
-                kept.net[0] = kept.net[1 - pin];
-                kept.net[1] = gone.netBeside(common);
+        /** The net of the other pin of a part with two pins, one of them on a net; -1 if none is on it. */
+        private int netAcross(int part, int near) {
+            if (netAt(part, 0) == near) {
+                return netAt(part, 1);
             }
-            boolean isSum = isSeries == (kept.kind == 'r');
-            kept.value = joinedValue(kept.value, gone.value, isSum);
-            gone.value = 0;
-            return kept.value;
+            return netAt(part, 1) == near ? netAt(part, 0) : -1;
+        }
+
+        /** Joins two parts into the one with the lower number; returns the joined value, 0 if they can't be joined. */
+        int joinPair(int one, int other) {
+            char way = wayToJoin(one, other);
+            if (way == NONE) {
+                return 0;
+            }
+            int kept = Math.min(one, other);
+            int gone = Math.max(one, other);
+            boolean isSum = (way == 's') == (kindAt(kept) == 'r');
+            int joined = joinedValue(valueAt(kept), valueAt(gone), isSum);
+            if (way == 's') {
+                spanBoth(kept, gone);
+            }
+            changeValue(kept, joined);
+            remove(gone);
+            return joined;
+        }
+
+        /** Puts a part in series with another one on the other nets of both. */
+        private void spanBoth(int kept, int gone) {
+            int pin = pinInSeries(kept, gone);
+            int own = netAt(kept, 1 - pin);
+            int across = netAcross(gone, netAt(kept, pin));
+            changeNet(kept, 0, own);
+            changeNet(kept, 1, across);
         }
 
         private static int joinedValue(int one, int other, boolean isSum) {
@@ -718,15 +725,51 @@ public final class Netcompare {
         }
 
         private boolean joinFirstPair() {
-            for (int one = 0; one < addedParts; one++) {
-                for (int other = one + 1; other < addedParts; other++) {
-                    if (hasPart(one) && hasPart(other) && wayToJoin(one, other) != NONE) {
-                        joinPair(one, other);
+            for (int one = 0; one < MOST; one++) {
+                for (int other = one + 1; other < MOST; other++) {
+                    if (joinPair(one, other) != 0) {
                         return true;
                     }
                 }
             }
             return false;
+        }
+
+        /** Writes the label of a part, and returns its length. */
+        int writeLabel(int part) {
+            int its = valueAt(part);
+            signCount = 0;
+            writeSign(kindAt(part));
+            if (its >= 100) {
+                writeDigit(its / 100);
+            }
+            if (its >= 10) {
+                writeDigit(its / 10 % 10);
+            }
+            writeDigit(its % 10);
+            for (int pin = 0; pin < MOST_PINS; pin++) {
+                if (netAt(part, pin) >= 0) {
+                    writeSign(':');
+                    writeDigit(netAt(part, pin));
+                }
+            }
+            return signCount;
+        }
+
+        private void writeDigit(int number) {
+            writeSign((char) ('0' + number));
+        }
+
+        private void writeSign(char sign) {
+            if (signCount < LONGEST_LABEL) {
+                label[signCount] = sign;
+                signCount++;
+            }
+        }
+
+        /** A sign of the label that was written last. */
+        char signAt(int index) {
+            return index >= 0 && index < LONGEST_LABEL && index < signCount ? label[index] : NONE;
         }
     }
 
@@ -752,16 +795,22 @@ public final class Netcompare {
 
         /** Puts a number so that the row rises from an index on: for numbers whose order tells nothing. */
         void put(int at, int number, int risingFrom) {
-            int index = rowLength[at];
-            if (index >= LONGEST_ROW) {
+            if (at < 0 || at >= SLOTS || rowLength[at] >= LONGEST_ROW) {
                 return;
             }
-            while (index > risingFrom && row[at][index - 1] > number) {
+            int index = rowLength[at];
+            while (index > 0 && index > risingFrom && row[at][index - 1] > number) {
                 row[at][index] = row[at][index - 1];
                 index--;
             }
             row[at][index] = number;
             rowLength[at]++;
+        }
+
+        void putDistance(int at, int steps) {
+            if (at >= 0 && at < SLOTS) {
+                distance[at] = steps;
+            }
         }
 
         void colourByRows() {
@@ -771,24 +820,24 @@ public final class Netcompare {
                     colour[at] = -1;
                 } else {
                     int same = firstWithRowOf(at);
-                    colour[at] = same < at ? colour[same] : classCount++;
+                    colour[at] = same < at ? colourAt(same) : classCount++;
                 }
             }
         }
 
         private int firstWithRowOf(int at) {
             int other = 0;
-            while (other < at && !haveSameRow(other, at)) {
+            while (other < at && other < SLOTS && !haveSameRow(other, at)) {
                 other++;
             }
             return other;
         }
 
         private boolean haveSameRow(int one, int other) {
-            if (rowLength[one] != rowLength[other]) {
+            if (one < 0 || one >= SLOTS || other < 0 || other >= SLOTS || rowLength[one] != rowLength[other]) {
                 return false;
             }
-            for (int index = 0; index < rowLength[one]; index++) {
+            for (int index = 0; index < rowLength[one] && index < LONGEST_ROW; index++) {
                 if (row[one][index] != row[other][index]) {
                     return false;
                 }
@@ -796,14 +845,18 @@ public final class Netcompare {
             return true;
         }
 
+        int colourAt(int at) {
+            return at >= 0 && at < SLOTS ? colour[at] : -1;
+        }
+
         boolean isSameColour(int ofWished, int ofDrawn) {
-            return colour[slot(0, ofWished)] == colour[slot(1, ofDrawn)];
+            return colourAt(slot(0, ofWished)) == colourAt(slot(1, ofDrawn));
         }
 
         int sizeOf(int itsColour, int circuit) {
             int size = 0;
             for (int number = 0; number < MOST; number++) {
-                if (colour[slot(circuit, number)] == itsColour) {
+                if (colourAt(slot(circuit, number)) == itsColour) {
                     size++;
                 }
             }
@@ -830,21 +883,28 @@ public final class Netcompare {
         }
     }
 
-    /** The colours of the nets and parts of both circuits, whose distances have been measured. */
-    static final class Colours {
+    /** The two circuits, and the colours of their nets and parts. */
+    static final class Pair {
         private static final int MOST_COLOURS = 4 * MOST;
         /** Stands for a pin that can be swapped, whichever one it is. */
         private static final int SWAPPABLE = MOST_PINS;
 
-        private final Circuit wished;
-        private final Circuit drawn;
+        private final Circuit wished = new Circuit();
+        private final Circuit drawn = new Circuit();
         private final Members ofNets = new Members();
         private final Members ofParts = new Members();
+        private final Differences unequal = new Differences();
         private int roundCount;
+        /** Whether the colours are those of the circuits as they are now. */
+        private boolean isColoured;
 
-        Colours(Circuit wished, Circuit drawn) {
-            this.wished = wished;
-            this.drawn = drawn;
+        Circuit circuit(int number) {
+            return number == 0 ? wished : drawn;
+        }
+
+        /** Whether the nets of both circuits are so few that all ways to map them can be tried. */
+        boolean hasFewNets() {
+            return wished.netCount <= MOST_TRIED_NETS && drawn.netCount <= MOST_TRIED_NETS;
         }
 
         int countClasses() {
@@ -852,37 +912,46 @@ public final class Netcompare {
         }
 
         /** Each counted round makes at least one colour more, so that there are fewer of them than colours. */
-        void refine() {
+        void colour() {
+            if (isColoured) {
+                return;
+            }
+            wished.measure();
+            drawn.measure();
             startColours();
             roundCount = 0;
             while (roundCount < MOST_COLOURS && goRound()) {
                 roundCount++;
             }
+            unequal.clear();
+            collectUnequal(false);
+            collectUnequal(true);
+            isColoured = true;
         }
 
         private void startColours() {
             ofNets.startRows();
             ofParts.startRows();
-            writeFirstRows(wished, 0);
-            writeFirstRows(drawn, 1);
+            writeFirstRows(0);
+            writeFirstRows(1);
             ofNets.colourByRows();
             ofParts.colourByRows();
         }
 
-        private void writeFirstRows(Circuit circuit, int number) {
-            for (int net = 0; net < circuit.netCount; net++) {
+        private void writeFirstRows(int number) {
+            Circuit from = circuit(number);
+            for (int net = 0; net < from.netCount; net++) {
                 int at = slot(number, net);
-                ofNets.put(at, circuit.letter[net], 0);
-                ofNets.put(at, circuit.countPins(net), 1);
-                ofNets.distance[at] = circuit.steps[net];
+                ofNets.put(at, from.letterAt(net), 0);
+                ofNets.put(at, from.countPins(net), 1);
+                ofNets.putDistance(at, from.stepsAt(net));
             }
-            for (int index = 0; index < circuit.addedParts; index++) {
-                Part part = circuit.part[index];
-                if (part.isThere()) {
-                    int at = slot(number, index);
-                    ofParts.put(at, part.kind, 0);
-                    ofParts.put(at, part.value, 1);
-                    ofParts.distance[at] = circuit.nearest(part);
+            for (int part = 0; part < MOST; part++) {
+                if (from.hasPart(part)) {
+                    int at = slot(number, part);
+                    ofParts.put(at, from.kindAt(part), 0);
+                    ofParts.put(at, from.valueAt(part), 1);
+                    ofParts.putDistance(at, from.nearest(part));
                 }
             }
         }
@@ -892,35 +961,53 @@ public final class Netcompare {
             int before = countClasses();
             ofNets.startRows();
             ofParts.startRows();
-            writeRows(wished, 0);
-            writeRows(drawn, 1);
+            writeRows(0);
+            writeRows(1);
             ofNets.colourByRows();
             ofParts.colourByRows();
             return countClasses() > before;
         }
 
-        private void writeRows(Circuit circuit, int number) {
-            for (int net = 0; net < circuit.netCount; net++) {
+        private void writeRows(int number) {
+            Circuit from = circuit(number);
+            for (int net = 0; net < from.netCount; net++) {
                 int at = slot(number, net);
-                ofNets.put(at, ofNets.colour[at], 0);
+                ofNets.put(at, ofNets.colourAt(at), 0);
             }
-            for (int index = 0; index < circuit.addedParts; index++) {
-                Part part = circuit.part[index];
-                if (part.isThere()) {
-                    writePart(part, number, slot(number, index));
+            for (int part = 0; part < MOST; part++) {
+                if (from.hasPart(part)) {
+                    writePart(number, part);
                 }
             }
         }
 
-        private void writePart(Part part, int number, int at) {
-            int colour = ofParts.colour[at];
+        private void writePart(int number, int part) {
+            Circuit from = circuit(number);
+            int at = slot(number, part);
+            int colour = ofParts.colourAt(at);
+            int firstSwappable = from.firstSwappable(part);
             ofParts.put(at, colour, 0);
-            for (int pin = 0; pin < part.pinCount; pin++) {
-                int atNet = slot(number, part.net[pin]);
-                boolean canSwap = pin >= part.firstSwappable;
+            for (int pin = 0; pin < MOST_PINS && from.netAt(part, pin) >= 0; pin++) {
+                int atNet = slot(number, from.netAt(part, pin));
+                boolean canSwap = pin >= firstSwappable;
                 ofNets.put(atNet, colour * (SWAPPABLE + 1) + (canSwap ? SWAPPABLE : pin), 1);
-                ofParts.put(at, ofNets.colour[atNet], 1 + (canSwap ? part.firstSwappable : pin));
+                ofParts.put(at, ofNets.colourAt(atNet), 1 + (canSwap ? firstSwappable : pin));
             }
+        }
+
+        private void collectUnequal(boolean isOfParts) {
+            Members members = isOfParts ? ofParts : ofNets;
+            for (int colour = 0; colour < members.classCount; colour++) {
+                if (members.sizeOf(colour, 0) != members.sizeOf(colour, 1)) {
+                    unequal.add(members.distanceOf(colour), isOfParts, members.firstOf(colour));
+                }
+            }
+        }
+
+        /** How many members an unequal class has in a circuit. */
+        int sizeOfUnequal(int index, int circuit) {
+            Members members = unequal.isOfParts(index) ? ofParts : ofNets;
+            return members.sizeOf(members.colourAt(unequal.slotOf(index)), circuit);
         }
     }
 
@@ -937,26 +1024,17 @@ public final class Netcompare {
         private final int[] key = new int[MOST_DIFFERENCES];
         private int count;
 
-        void collect(Colours colours) {
+        void clear() {
             count = 0;
-            collectFrom(colours.ofNets, 0);
-            collectFrom(colours.ofParts, OF_PARTS);
         }
 
-        private void collectFrom(Members members, int kind) {
-            for (int colour = 0; colour < members.classCount; colour++) {
-                if (members.sizeOf(colour, 0) != members.sizeOf(colour, 1)) {
-                    int first = members.firstOf(colour);
-                    int member = first < MOST ? first : DRAWN + first - MOST;
-                    insert(members.distanceOf(colour) * ONE_STEP + kind + member);
-                }
-            }
-        }
-
-        private void insert(int newKey) {
+        /** Adds a class, told by the slot of its first member. */
+        void add(int distance, boolean isOfParts, int slot) {
             if (count >= MOST_DIFFERENCES) {
                 return;
             }
+            int member = slot < MOST ? slot : DRAWN + slot - MOST;
+            int newKey = distance * ONE_STEP + (isOfParts ? OF_PARTS : 0) + member;
             int index = count;
             while (index > 0 && key[index - 1] > newKey) {
                 key[index] = key[index - 1];
@@ -966,53 +1044,73 @@ public final class Netcompare {
             count++;
         }
 
+        private int keyAt(int index) {
+            return index >= 0 && index < MOST_DIFFERENCES ? key[index] : 0;
+        }
+
         boolean isOfParts(int index) {
-            return key[index] % ONE_STEP >= OF_PARTS;
+            return keyAt(index) % ONE_STEP >= OF_PARTS;
         }
 
         int memberOf(int index) {
-            return key[index] % OF_PARTS;
+            return keyAt(index) % OF_PARTS;
         }
 
         int distanceOf(int index) {
-            return key[index] / ONE_STEP;
+            return keyAt(index) / ONE_STEP;
         }
 
-        int sizeOf(int index, int circuit, Colours colours) {
-            Members members = isOfParts(index) ? colours.ofParts : colours.ofNets;
+        int slotOf(int index) {
             int member = memberOf(index);
-            int at = member < DRAWN ? slot(0, member) : slot(1, member - DRAWN);
-            return members.sizeOf(members.colour[at], circuit);
+            return member < DRAWN ? slot(0, member) : slot(1, member - DRAWN);
         }
     }
 
     /** A way to map the nets and parts of the wished circuit to those of the drawn one. */
     static final class Match {
-        private final Circuit wished;
-        private final Circuit drawn;
+        private final Pair pair;
         /** The drawn net of each wished one, or -1 as long as it is mapped to none. */
         private final int[] image = new int[MOST];
         /** The other way round: the wished net of each drawn one, or -1. */
         private final int[] origin = new int[MOST];
         private final int[] partImage = new int[MOST];
         private boolean isFound;
+        private boolean isSearched;
 
-        Match(Circuit wished, Circuit drawn) {
-            this.wished = wished;
-            this.drawn = drawn;
+        Match(Pair pair) {
+            this.pair = pair == null ? new Pair() : pair;
         }
 
         /** Finds the first match; a net can only be mapped to one of its class, and no class can be unequal. */
-        void find(Members nets, boolean areClassesEqual) {
-            unbindAll();
-            isFound = areClassesEqual && mapNetsFrom(this, nets, 0);
+        void find() {
+            if (!isSearched) {
+                pair.colour();
+                unbindAll();
+                isFound = pair.unequal.count == 0 && mapNetsFrom(this, 0);
+                isSearched = true;
+            }
         }
 
         /** Finds the first match without the classes. */
         void findByTrying() {
-            unbindAll();
-            isFound = wished.netCount == drawn.netCount && wished.countParts() == drawn.countParts()
-                    && tryNetsFrom(this, 0);
+            if (!isSearched) {
+                unbindAll();
+                isFound = pair.wished.netCount == pair.drawn.netCount
+                        && pair.wished.countParts() == pair.drawn.countParts() && tryNetsFrom(this, 0);
+                isSearched = true;
+            }
+        }
+
+        int imageAt(int net) {
+            return net >= 0 && net < MOST ? image[net] : -1;
+        }
+
+        int partImageAt(int part) {
+            return part >= 0 && part < MOST ? partImage[part] : -1;
+        }
+
+        private boolean isFree(int to) {
+            return to >= 0 && to < MOST && origin[to] < 0;
         }
 
         private void unbindAll() {
@@ -1023,27 +1121,40 @@ public final class Netcompare {
         }
 
         private void bind(int net, int to) {
-            image[net] = to;
-            origin[to] = net;
+            if (net >= 0 && net < MOST && to >= 0 && to < MOST) {
+                image[net] = to;
+                origin[to] = net;
+            }
         }
 
         private void unbind(int net, int to) {
-            image[net] = -1;
-            origin[to] = -1;
+            if (net >= 0 && net < MOST && to >= 0 && to < MOST) {
+                image[net] = -1;
+                origin[to] = -1;
+            }
         }
 
-        /** Maps a net and those behind it; the net is the depth too, and ends it. */
-        private static boolean mapNetsFrom(Match match, Members nets, int net) {
-            if (net >= match.wished.netCount || net >= MOST) {
+        /**
+         * Maps a net and those behind it; the net is the depth too, and ends it. Free nets of one class that no part
+         * joins to others are as good as one another: where the first of them fails, the others do.
+         */
+        private static boolean mapNetsFrom(Match match, int net) {
+            if (match == null || net < 0) {
+                return false;
+            }
+            if (net >= match.pair.wished.netCount || net >= MOST) {
                 return match.mapParts();
             }
-            for (int to = 0; to < match.drawn.netCount; to++) {
-                if (match.origin[to] < 0 && nets.isSameColour(net, to)) {
+            boolean hasOneAloneFailed = false;
+            for (int to = 0; to < match.pair.drawn.netCount; to++) {
+                boolean isAlone = match.pair.drawn.isAlone(to);
+                if (match.isFree(to) && match.pair.ofNets.isSameColour(net, to) && !(isAlone && hasOneAloneFailed)) {
                     match.bind(net, to);
-                    if (match.mapParts() && mapNetsFrom(match, nets, net + 1)) {
+                    if (match.mapParts() && mapNetsFrom(match, net + 1)) {
                         return true;
                     }
                     match.unbind(net, to);
+                    hasOneAloneFailed = hasOneAloneFailed || isAlone;
                 }
             }
             return false;
@@ -1051,11 +1162,14 @@ public final class Netcompare {
 
         /** Maps a net and those behind it in all ways; the net is the depth too, and ends it. */
         private static boolean tryNetsFrom(Match match, int net) {
-            if (net >= match.wished.netCount || net >= MOST) {
+            if (match == null || net < 0 || !match.pair.hasFewNets()) {
+                return false;
+            }
+            if (net >= match.pair.wished.netCount || net >= MOST) {
                 return match.doPortsFit() && match.mapParts();
             }
-            for (int to = 0; to < match.drawn.netCount; to++) {
-                if (match.origin[to] < 0) {
+            for (int to = 0; to < match.pair.drawn.netCount; to++) {
+                if (match.isFree(to)) {
                     match.bind(net, to);
                     if (tryNetsFrom(match, net + 1)) {
                         return true;
@@ -1067,9 +1181,9 @@ public final class Netcompare {
         }
 
         private boolean doPortsFit() {
-            for (int net = 0; net < wished.netCount; net++) {
-                int to = image[net];
-                if (to < 0 || wished.letter[net] != drawn.letter[to]) {
+            for (int net = 0; net < pair.wished.netCount; net++) {
+                int to = imageAt(net);
+                if (to < 0 || pair.wished.letterAt(net) != pair.drawn.letterAt(to)) {
                     return false;
                 }
             }
@@ -1082,9 +1196,9 @@ public final class Netcompare {
          */
         private boolean mapParts() {
             int taken = 0;
-            for (int part = 0; part < wished.addedParts; part++) {
-                if (wished.part[part].isThere()) {
-                    int to = lowestFitting(wished.part[part], taken);
+            for (int part = 0; part < MOST; part++) {
+                if (pair.wished.hasPart(part)) {
+                    int to = lowestFitting(part, taken);
                     if (to < 0) {
                         return false;
                     }
@@ -1095,32 +1209,45 @@ public final class Netcompare {
             return true;
         }
 
-        private int lowestFitting(Part part, int taken) {
-            for (int to = 0; to < drawn.addedParts; to++) {
-                Part other = drawn.part[to];
-                if ((taken >> to & 1) == 0 && other.value == part.value && other.kind == part.kind
-                        && (doPinsFit(part, other, false) || doPinsFit(part, other, true))) {
+        private int lowestFitting(int part, int taken) {
+            int firstSwappable = pair.wished.firstSwappable(part);
+            for (int to = 0; to < MOST; to++) {
+                if ((taken >> to & 1) == 0 && areOfOneKind(part, to)
+                        && (doPinsFit(part, to, MOST_PINS) || doPinsFit(part, to, firstSwappable))) {
                     return to;
                 }
             }
             return -1;
         }
 
-        /** Compares both parts by drawn nets: one to which no net is mapped yet is as good as another such one. */
-        private boolean doPinsFit(Part part, Part other, boolean isSwapped) {
-            for (int pin = 0; pin < part.pinCount; pin++) {
-                int net = other.net[isSwapped ? part.partner(pin) : pin];
-                int mapped = origin[net] < 0 ? -1 : net;
-                if (image[part.net[pin]] != mapped) {
+        private boolean areOfOneKind(int part, int to) {
+            return pair.drawn.valueAt(to) == pair.wished.valueAt(part)
+                    && pair.drawn.kindAt(to) == pair.wished.kindAt(part);
+        }
+
+        /**
+         * Compares both parts by drawn nets, the pins from one on swapped: a net to which none is mapped yet is as
+         * good as another such one.
+         */
+        private boolean doPinsFit(int part, int to, int swappedFrom) {
+            for (int pin = 0; pin < MOST_PINS; pin++) {
+                int net = pair.drawn.netAt(to, swapped(pin, swappedFrom));
+                int mapped = net < 0 || isFree(net) ? -1 : net;
+                if (imageAt(pair.wished.netAt(part, pin)) != mapped) {
                     return false;
                 }
             }
             return true;
         }
 
-        int pinImage(int number, int pin) {
-            Part part = wished.part[number];
-            return doPinsFit(part, drawn.part[partImage[number]], false) ? pin : part.partner(pin);
+        /** The pin with which a pin is swapped, if those from one on are; otherwise the pin itself. */
+        private static int swapped(int pin, int from) {
+            return pin < from ? pin : 2 * from + 1 - pin;
+        }
+
+        int pinImage(int part, int pin) {
+            boolean isSame = doPinsFit(part, partImageAt(part), MOST_PINS);
+            return isSame ? pin : swapped(pin, pair.wished.firstSwappable(part));
         }
     }
 }

@@ -12,6 +12,11 @@ public final class RoomTest {
     /** Nets told apart by no colour: all loops on one side, one pair among them on the other. */
     private static final String TEN_LOOPS = LOOPS + "r1:6:6 r1:7:7 r1:8:8 r1:9:9";
     private static final String LOOPS_AND_PAIR = LOOPS + "r1:6:6 r1:7:7 r1:8:9 r1:9:8";
+    /** The slowest search found: two pairs and a ring of six on one side, five pairs on the other. */
+    private static final String RING_AND_PAIRS =
+            "r1:4:6 r1:6:4 r1:8:0 r1:0:7 r1:7:3 r1:3:9 r1:9:1 r1:1:8 r1:5:2 r1:2:5";
+    private static final String FIVE_PAIRS =
+            "r1:0:1 r1:1:0 r1:2:3 r1:3:2 r1:4:5 r1:5:4 r1:6:7 r1:7:6 r1:8:9 r1:9:8";
     private static int answers;
 
     public static void main(String[] args) {
@@ -19,8 +24,10 @@ public final class RoomTest {
         CHECK.due("bytes of 100 objects are at most 25000 each", true, () -> bytesOfObjects() <= 2_500_000);
         CHECK.due("bytes of 100 times all calls that answer", true, () -> bytesOfCalls() <= 10_000);
         CHECK.due("100 hard searches end within 30 seconds", true, () -> secondsOfSearches(hard(), 100) < 30);
-        CHECK.due("the slowest search found ends within 30 seconds", true,
-                () -> secondsOfSearches(Draw.both(10, LOOPS_AND_PAIR, TEN_LOOPS), 1) < 30);
+        CHECK.due("100 searches among nets that all are alone end within 30 seconds", true,
+                () -> secondsOfSearches(Draw.both(10, LOOPS_AND_PAIR, TEN_LOOPS), 100) < 30);
+        CHECK.due("100 times the slowest search found ends within 30 seconds", true,
+                () -> secondsOfSearches(Draw.both(10, RING_AND_PAIRS, FIVE_PAIRS), 100) < 30);
         CHECK.finish();
     }
 
