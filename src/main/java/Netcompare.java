@@ -1232,7 +1232,7 @@ public final class Netcompare {
         private boolean doPinsFit(int part, int to, int swappedFrom) {
             for (int pin = 0; pin < MOST_PINS; pin++) {
                 int net = pair.drawn.netAt(to, swapped(pin, swappedFrom));
-                int mapped = net < 0 || isFree(net) ? -1 : net;
+                int mapped = isFree(net) ? -1 : net;
                 if (imageAt(pair.wished.netAt(part, pin)) != mapped) {
                     return false;
                 }

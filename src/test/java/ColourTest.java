@@ -9,6 +9,7 @@ public final class ColourTest {
         roundsOfAChain();
         pinsThatSwapAreAlike();
         pinsThatStayAreNot();
+        kindsAndValuesAreNotMixedUp();
         pinsCountAsOftenAsTheyCome();
         roundsGoOnInBoth();
         fullCircuits();
@@ -47,6 +48,19 @@ public final class ColourTest {
     private static void pinsThatStayAreNot() {
         CHECK.due("a diode", "1 2 1", () -> classes(Draw.one(2, "d1:0:1")));
         CHECK.due("a crossed diode", "1 4 2", () -> classes(Draw.both(2, "d1:0:1 a=0", "d1:1:0 a=0")));
+    }
+
+    /** Parts whose values are the numbers of the other one's kind as a character. */
+    private static void kindsAndValuesAreNotMixedUp() {
+        String kinds = "rcdt";
+        for (char one : kinds.toCharArray()) {
+            for (char other : kinds.toCharArray()) {
+                Netcompare x = Draw.one(1, "");
+                x.addPart(0, one, other, 0, 0, one == 't' ? 0 : -1);
+                x.addPart(0, other, one, 0, 0, other == 't' ? 0 : -1);
+                CHECK.due(one + " and " + other, one == other ? 1 : 2, () -> x.partClasses());
+            }
+        }
     }
 
     private static void pinsCountAsOftenAsTheyCome() {

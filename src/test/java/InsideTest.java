@@ -22,6 +22,7 @@ public final class InsideTest {
         40, 99, 100, 110, 999, 1000, 65536, Integer.MAX_VALUE, Integer.MAX_VALUE - 1, Integer.MIN_VALUE};
     private static final String SIGNS = "rcdtrcdt-abcdefg\0\uffff";
     private static final List<Class<?>> CLASSES = classes();
+    private static final TreeMap<String, Method[]> METHODS = methods();
 
     private final Random random;
     /** Objects of each class, those too that stand in fields of others. */
@@ -33,7 +34,7 @@ public final class InsideTest {
     }
 
     public static void main(String[] args) {
-        int runs = args.length > 0 ? Integer.parseInt(args[0]) : 30;
+        int runs = args.length > 0 ? Integer.parseInt(args[0]) : 200;
         TreeSet<String> faults = new TreeSet<>();
         for (int run = 0; run < runs; run++) {
             faults.addAll(new InsideTest(run).goAtRandom());
@@ -53,11 +54,9 @@ public final class InsideTest {
         }
         for (int times = 0; times < 20_000; times++) {
             Class<?> type = CLASSES.get(random.nextInt(CLASSES.size()));
-            Method[] methods = methods(type);
+            Method[] methods = METHODS.get(type.getName());
             List<Object> objects = made.get(type.getName());
-            if (methods.length > 0 && !objects.isEmpty()) {
-                call(methods[random.nextInt(methods.length)], objects.get(random.nextInt(objects.size())));
-            }
+            call(methods[random.nextInt(methods.length)], objects.get(random.nextInt(objects.size())));
         }
         return faults;
     }
@@ -127,9 +126,14 @@ public final class InsideTest {
         return all;
     }
 
-    private static Method[] methods(Class<?> type) {
-        Method[] methods = type.getDeclaredMethods();
-        Arrays.sort(methods, Comparator.comparing(Method::toString));
-        return methods;
+    /** The methods of each class, in the same order each time. */
+    private static TreeMap<String, Method[]> methods() {
+        TreeMap<String, Method[]> all = new TreeMap<>();
+        for (Class<?> type : CLASSES) {
+            Method[] methods = type.getDeclaredMethods();
+            Arrays.sort(methods, Comparator.comparing(Method::toString));
+            all.put(type.getName(), methods);
+        }
+        return all;
     }
 }

@@ -9,6 +9,7 @@ public final class MatchTest {
         promise29And30NotMatched();
         promise30TooManyNets();
         promise31And32FirstMatch();
+        promise31And32NetsAlone();
         promise31And32Wrong();
         promise33FirstPart();
         promise33Wrong();
@@ -74,6 +75,22 @@ public final class MatchTest {
         CHECK.due("two pairs", "22 11 33 00 ", () -> nets(
                 Draw.both(4, "d1:1:0 d1:3:2", "d1:0:3 d1:1:2")));
         CHECK.due("ports", "11 00 ", () -> nets(Draw.both(2, "r1:0:1 b=0", "r1:0:1 b=1")));
+    }
+
+    /** Loops and pairs that no colour tells apart: where one loop does not fit, none does, but a pair may. */
+    private static void promise31And32NetsAlone() {
+        CHECK.due("a loop behind a pair", "00 22 33 11 ", () -> nets(
+                Draw.both(4, "r1:0:3 r1:3:0 r1:1:1 r1:2:2", "r1:0:1 r1:1:0 r1:2:2 r1:3:3")));
+        CHECK.due("a pair behind loops", "22 00 11 33 ", () -> nets(
+                Draw.both(4, "r1:0:3 r1:3:0 r1:1:1 r1:2:2", "r1:0:0 r1:1:1 r1:2:3 r1:3:2")));
+        CHECK.due("a pair between loops", "11 00 33 22 ", () -> nets(
+                Draw.both(4, "r1:0:3 r1:3:0 r1:1:1 r1:2:2", "r1:0:0 r1:1:2 r1:2:1 r1:3:3")));
+        CHECK.due("nets without pins", "33 00 11 44 22 ", () -> nets(
+                Draw.both(5, "r1:0:3", "r1:3:4")));
+        CHECK.due("loops without a pair", "false false", () -> both(
+                Draw.both(4, "r1:0:3 r1:3:0 r1:1:1 r1:2:2", "r1:0:0 r1:1:1 r1:2:2 r1:3:3")));
+        CHECK.due("transistors on one net", "00 22 33 11 ", () -> nets(
+                Draw.both(4, "t1:0:3:3 t1:3:0:0 t1:1:1:1 t1:2:2:2", "t1:0:1:1 t1:1:0:0 t1:2:2:2 t1:3:3:3")));
     }
 
     private static void promise31And32Wrong() {
